@@ -174,7 +174,7 @@ public final class BigPolys {
             return NONE;
         }
         chain.prepare(registers[x]);
-        return chain.changesAt(low) - chain.changesAt(high);
+        return chain.changes(low, false) - chain.changes(high, false);
     }
 
     public int allRoots(int x) {
@@ -182,7 +182,7 @@ public final class BigPolys {
             return NONE;
         }
         chain.prepare(registers[x]);
-        return chain.changesFar(-1) - chain.changesFar(1);
+        return chain.changes(-1, true) - chain.changes(1, true);
     }
 
     public long place(int x, int k) {
@@ -240,7 +240,7 @@ public final class BigPolys {
     }
 
     /**
-     * A whole number: its sign and its digits of 31 bits, the lowest first. The digit below size is
+     * A whole number: its sign and its digits of 31 bits, the lowest first. The highest of them is
      * never 0; what stands from size on is old and is not looked at.
      */
     private static final class Whole {
@@ -554,6 +554,11 @@ public final class BigPolys {
 
         int leadSign() {
             return degree < 0 ? 0 : terms[degree].sign;
+        }
+
+        /** The sign beyond all roots, on a point's side of 0. */
+        int signBeyond(long point) {
+            return point < 0 && degree % 2 != 0 ? -leadSign() : leadSign();
         }
 
         boolean fits() {
@@ -883,40 +888,23 @@ public final class BigPolys {
             return end;
         }
 
-        int changesAt(long point) {
-            int changes = 0;
+        /** The changes of sign along the chain at a point, or beyond all roots on its side of 0. */
+        int changes(long point, boolean beyond) {
+            int count = 0;
             int before = 0;
             for (int i = 0; i <= last; i++) {
-                int now = bench.signAt(links[i], point, 1);
+                int now = beyond ? links[i].signBeyond(point) : bench.signAt(links[i], point, 1);
                 if (now * before < 0) {
-                    changes++;
+                    count++;
                 }
                 before = now == 0 ? before : now;
             }
-            return changes;
-        }
-
-        /** The changes below all roots (side -1) or above them (side 1). */
-        int changesFar(int side) {
-            int changes = 0;
-            int before = 0;
-            for (int i = 0; i <= last; i++) {
-                boolean turned = side < 0 && links[i].degree % 2 != 0;
-                int now = turned ? -links[i].leadSign() : links[i].leadSign();
-                if (now * before < 0) {
-                    changes++;
-                }
-                before = now == 0 ? before : now;
-            }
-            return changes;
+            return count;
         }
 
         /** The floor of root k, or Long.MIN_VALUE if there is none or it is not above the least int. */
         long floorOfRoot(int k) {
-            int far = changesFar(-1);
-            if (k < 0 || k >= far - changesFar(1)) {
-                return Long.MIN_VALUE;
-            }
+            int far = changes(-1, true);
             long low = Integer.MIN_VALUE + 1L;
             long high = Integer.MAX_VALUE + 1L;
             if (rootsBelow(low, far) > k || rootsBelow(high, far) <= k) {
@@ -934,7 +922,7 @@ public final class BigPolys {
         }
 
         private int rootsBelow(long point, int far) {
-            int upTo = far - changesAt(point);
+            int upTo = far - changes(point, false);
             return bench.signAt(links[0], point, 1) == 0 ? upTo - 1 : upTo;
         }
     }

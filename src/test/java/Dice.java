@@ -7,6 +7,9 @@ final class Dice {
         Integer.MAX_VALUE, Integer.MAX_VALUE + 1L, Integer.MAX_VALUE - 1L, 0, 1, -1,
     };
 
+    /** Words at which a guessed digit of a quotient goes wrong. */
+    private static final long[] KNOTS = {0, 0, 1, 0x3fffffff, 0x40000000, 0x40000001, 0x7ffffffe, 0x7fffffff};
+
     private long state;
 
     Dice(long seed) {
@@ -43,12 +46,12 @@ final class Dice {
         }
     }
 
-    /** Any sign, up to the bits told; now and then all bits set, or words of zeros. */
+    /** Any sign, up to the bits told; now and then all bits set, or words that are hard to divide. */
     BigInteger whole(int bits) {
         BigInteger value = BigInteger.ZERO;
         int kind = below(6);
         for (int i = 0; i < bits; i += 31) {
-            long word = kind == 0 ? 0x7fffffff : kind == 1 && coin() ? 0 : step() & 0x7fffffff;
+            long word = kind == 0 ? 0x7fffffff : kind == 1 ? KNOTS[below(KNOTS.length)] : step() & 0x7fffffff;
             value = value.shiftLeft(31).add(BigInteger.valueOf(word));
         }
         BigInteger cut = value.mod(BigInteger.ONE.shiftLeft(bits));

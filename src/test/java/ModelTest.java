@@ -1,7 +1,10 @@
+import java.math.BigInteger;
+
 /** Runs of calls made up by a fixed recipe, on the class and on the model. */
 public final class ModelTest {
     private static final int SHORT_RUNS = 3000;
     private static final int LONG_RUNS = 40;
+    private static final int DIVISIONS = 3000;
 
     public static void main(String[] args) {
         Check check = new Check();
@@ -10,6 +13,9 @@ public final class ModelTest {
         }
         for (int run = 0; run < LONG_RUNS; run++) {
             longRun(check, run);
+        }
+        for (int run = 0; run < DIVISIONS; run++) {
+            division(check, run);
         }
         check.end();
     }
@@ -36,6 +42,22 @@ public final class ModelTest {
         for (int k = 0; k <= all && k < 3; k++) {
             twin.place(x, k);
         }
+    }
+
+    /** Long division, which the common divisor of two coefficients shows at every step. */
+    private static void division(Check check, int run) {
+        Dice dice = new Dice(2000000 + run);
+        Twin twin = new Twin(check, "division " + run);
+        BigInteger content = dice.whole(31 * dice.from(1, 3));
+        BigInteger[] x = Model.scaled(dice.poly(1, 31 * dice.from(1, 3)), content);
+        twin.put(0, x);
+        twin.gcd(1, 0, 7);
+        twin.read(1);
+        twin.put(2, Model.trim(new BigInteger[] {content}));
+        twin.quotient(3, 0, 2);
+        twin.read(3);
+        twin.quotient(3, 2, 3);
+        twin.read(3);
     }
 
     private static int result(Twin twin, Dice dice, int d, int x, int y) {
