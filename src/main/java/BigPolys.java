@@ -16,7 +16,8 @@ public final class BigPolys {
 
     /**
      * A link of a chain is a subresultant, a determinant of at most 16 rows, each at most three
-     * times 2^186 long: at most 3002 bits, which are 97 digits.
+     * times 2^186 long: at most 3002 bits, which are 97 digits. A derivative's rows are longer, but
+     * then there are 15 at most: 2833 bits.
      */
     private static final int LINK_ROOM = 100;
 
