@@ -2,6 +2,12 @@
 final class Check {
     private long seen = 0;
     private long wrong = 0;
+    private String about = "";
+
+    /** What the answers from here on are about; told with each wrong one. */
+    void about(String what) {
+        about = what + ": ";
+    }
 
     void due(String call, long want, long got) {
         seen++;
@@ -31,7 +37,7 @@ final class Check {
     private void tell(String call, String want, String got) {
         wrong++;
         if (wrong <= 50) {
-            System.out.println(call + " answered " + got + ", due is " + want);
+            System.out.println(about + call + " answered " + got + ", due is " + want);
         }
     }
 

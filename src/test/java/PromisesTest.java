@@ -2,11 +2,11 @@ import java.math.BigInteger;
 
 /** Each promise with ordinary inputs, the document's edges and wrong inputs; the answers are written out. */
 public final class PromisesTest {
-    private static final int LEAST = Integer.MIN_VALUE;
-    private static final int MOST = Integer.MAX_VALUE;
-    private static final long NOWHERE = Long.MIN_VALUE;
+    private static final int LEAST = Polys.LEAST;
+    private static final int MOST = Polys.MOST;
+    private static final long NOWHERE = Polys.NOWHERE;
     private static final int[] WRONG = {-1, 8, LEAST, MOST};
-    private static final BigInteger FULL = BigInteger.ONE.shiftLeft(186).subtract(BigInteger.ONE);
+    private static final BigInteger FULL = Polys.FULL;
 
     private static final Check check = new Check();
 
@@ -37,21 +37,11 @@ public final class PromisesTest {
     }
 
     private static BigInteger[] poly(long... low) {
-        BigInteger[] p = new BigInteger[low.length];
-        for (int i = 0; i < p.length; i++) {
-            p[i] = BigInteger.valueOf(low[i]);
-        }
-        return p;
+        return Polys.poly(low);
     }
 
     private static void put(BigPolys p, int r, BigInteger... low) {
-        for (int i = 0; i <= 8; i++) {
-            BigInteger c = i < low.length ? low[i] : BigInteger.ZERO;
-            check.due("coefficient", true, p.coefficient(r, i, c.signum()));
-            for (int j = 0; 31 * j < c.abs().bitLength(); j++) {
-                check.due("word", true, p.word(c.abs().shiftRight(31 * j).intValue() & MOST));
-            }
-        }
+        Polys.put(p, r, low);
     }
 
     private static void put(BigPolys p, int r, long... low) {
@@ -59,23 +49,11 @@ public final class PromisesTest {
     }
 
     private static String read(BigPolys p, int r) {
-        StringBuilder text = new StringBuilder();
-        for (int i = 0; i <= p.degree(r); i++) {
-            BigInteger c = BigInteger.ZERO;
-            for (int j = p.words(r, i) - 1; j >= 0; j--) {
-                c = c.shiftLeft(31).add(BigInteger.valueOf(p.wordOf(r, i, j)));
-            }
-            text.append(p.signOf(r, i) < 0 ? c.negate() : c).append(' ');
-        }
-        return text.toString().trim();
+        return Polys.read(p, r);
     }
 
     private static String text(BigInteger... low) {
-        StringBuilder text = new StringBuilder();
-        for (BigInteger c : low) {
-            text.append(c).append(' ');
-        }
-        return text.toString().trim();
+        return Polys.text(low);
     }
 
     private static void holds(String call, BigPolys p, int r, long... low) {
