@@ -4,6 +4,7 @@ import java.util.Arrays;
 /** The largest coefficients, and chains whose degrees fall by more than one: the rows must be wide enough. */
 public final class LargeTest {
     private static final int RUNS = 60;
+    private static final int GAPS = 400;
     private static final int FULL = Model.MOST_BITS;
 
     public static void main(String[] args) {
@@ -18,6 +19,10 @@ public final class LargeTest {
         }
         for (int power = 1; power < 8; power++) {
             trinomial(check, power);
+        }
+        for (int run = 0; run < GAPS; run++) {
+            gapInTheMiddle(check, run);
+            powers(check, run);
         }
         check.end();
     }
@@ -104,6 +109,43 @@ public final class LargeTest {
             x[power] = (signs & 2) == 0 ? most : most.negate();
             x[0] = (signs & 4) == 0 ? most.subtract(BigInteger.TWO) : most.negate();
             both(check, "trinomial " + power + " " + signs, x, Model.trim(new BigInteger[] {most, BigInteger.ONE, most}));
+        }
+    }
+
+    /**
+     * Two whose degrees fall by more than one behind the first step, and which share a factor: a
+     * link that is not exact then shows, for the last one does not become 0.
+     */
+    private static void gapInTheMiddle(Check check, int run) {
+        Dice dice = new Dice(6000000 + run);
+        int degree = dice.from(3, 7);
+        int bits = dice.from(2, 60);
+        BigInteger[] common = dice.poly(8 - degree, bits);
+        BigInteger[] u = dice.sparse(degree, bits);
+        BigInteger[] v = dice.coin() ? Model.slope(u) : dice.sparse(degree - 1, bits);
+        BigInteger[] x = Model.product(u, common);
+        BigInteger[] y = Model.product(v, common);
+        if (fits(x) && fits(y)) {
+            both(check, "gap in the middle " + run, x, y);
+        }
+    }
+
+    /** w(t^k) t^j, with roots that come oftener: degrees fall by k, and the chain ends early. */
+    private static void powers(Check check, int run) {
+        Dice dice = new Dice(7000000 + run);
+        int k = dice.from(2, 4);
+        int bits = dice.from(2, 40);
+        BigInteger[] line = dice.poly(1, bits);
+        BigInteger[] w = Model.product(Model.product(line, line), dice.poly(8 / k - 2, bits));
+        BigInteger[] x = new BigInteger[9];
+        Arrays.fill(x, BigInteger.ZERO);
+        int up = dice.from(0, 8 % k);
+        for (int i = 0; i < w.length; i++) {
+            x[k * i + up] = w[i];
+        }
+        x = Model.trim(x);
+        if (x.length > 1 && fits(x)) {
+            both(check, "powers " + run, x, Model.slope(x));
         }
     }
 }

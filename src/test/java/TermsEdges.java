@@ -281,6 +281,19 @@ final class TermsEdges extends Edges {
         gives(Op.ONCE, poly(1, -1), poly(1), poly(-1, 1));
         gives(Op.ONCE, poly(-1, 2, -1), poly(1), poly(-1, 1));
         gives(Op.ONCE, poly(-7), poly(1), ONE);
+        for (int signs = 0; signs < 4; signs++) {
+            long sign = signs < 2 ? 1 : -1;
+            long lower = signs % 2 == 0 ? sign : -sign;
+            // a multiple of 2 t +- 3 that has a leading coefficient of either sign
+            BigInteger[] x = poly(6 * lower, 4 * sign);
+            BigInteger[] due = poly(3 * lower * sign, 2);
+            gives(Op.GCD, x, poly(0), due);
+            gives(Op.GCD, poly(0), x, due);
+            gives(Op.GCD, x, Model.product(due, poly(1, -1)), due);
+            gives(Op.GCD, Model.product(x, poly(1, 1)), Model.product(due, poly(1, -1)), due);
+            gives(Op.ONCE, x, poly(1), due);
+            gives(Op.ONCE, Model.product(x, due), poly(1), due);
+        }
     }
 
     private void primitivePart() {
