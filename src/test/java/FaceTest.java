@@ -6,6 +6,8 @@ import java.nio.file.Files;
 import java.nio.file.Path;
 import java.util.Set;
 import java.util.TreeSet;
+import java.util.regex.Matcher;
+import java.util.regex.Pattern;
 
 /** The public face is the document's, whole and no wider; the source keeps off what is ruled out. */
 public final class FaceTest {
@@ -33,6 +35,11 @@ public final class FaceTest {
     private static final String[] RULED_OUT = {
         "throw", "catch", "->", "::", "synchronized", "assert", "BigInteger", "Random", "Exact", "static {",
     };
+    private static final Pattern LIBRARY = Pattern.compile("\\b(Arrays|Integer|Long|Math|String|System)\\.(\\w+)");
+    private static final Set<String> LIBRARY_USED = Set.of(
+        "Arrays.fill", "Integer.MAX_VALUE", "Integer.MIN_VALUE", "Integer.numberOfLeadingZeros",
+        "Long.MIN_VALUE", "Math.abs", "Math.max", "Math.min", "System.arraycopy");
+    private static final int MOST_PARAMETERS = 7;
 
     public static void main(String[] args) throws Exception {
         Check check = new Check();
@@ -72,6 +79,7 @@ public final class FaceTest {
     private static void noneNamedLikeTheFace(Check check, Class<?> inner, Set<String> names) {
         for (Method method : inner.getDeclaredMethods()) {
             check.due(method + " bears a public name", 0, names.contains(method.getName()) ? 1 : 0);
+            check.due(method + " takes few parameters", true, method.getParameterCount() <= MOST_PARAMETERS);
         }
     }
 
@@ -79,6 +87,10 @@ public final class FaceTest {
         String text = Files.readString(Path.of("src/main/java/BigPolys.java"));
         for (String word : RULED_OUT) {
             check.due("the source holds " + word, -1, text.indexOf(word));
+        }
+        Matcher use = LIBRARY.matcher(text);
+        while (use.find()) {
+            check.due(use.group() + " is used", true, LIBRARY_USED.contains(use.group()));
         }
     }
 }
